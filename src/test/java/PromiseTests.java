@@ -383,6 +383,7 @@ public final class PromiseTests {
         dueText("join to the second", x, 3, "ab\u00ffab\u00ffc");
         x.setByte(3, 0, 'z');
         due("the old one stays", x.byteAt(0, 0), 'a');
+        textsToTheLimit();
         joinFails();
     }
 
@@ -427,6 +428,23 @@ public final class PromiseTests {
         y.join(1, 0, 2);
         due("collections", y.total(3), 2);
         due("byte 207", y.byteAt(1, 207), 3);
+    }
+
+    /** Texts that end where the limit ends: no word behind them is written. */
+    private static void textsToTheLimit() {
+        for (int bytes = 225; bytes <= 232; bytes++) {
+            WordHeap x = new WordHeap(64);
+            x.text(0, bytes);
+            x.setByte(0, bytes - 1, 7);
+            x.make(1, 64 - x.total(0) * 2 - 1);
+            x.join(2, 0, 5);
+            due("used", x.total(0), 64);
+            due("last byte", x.byteAt(2, bytes - 1), 7);
+            x.nil(2);
+            x.part(2, 0, 0, bytes);
+            due("used", x.total(0), 64);
+            due("last byte", x.byteAt(2, bytes - 1), 7);
+        }
     }
 
     private static void part() {
@@ -718,6 +736,7 @@ public final class PromiseTests {
             }
         }
         copiedReferences();
+        copiedEdges();
         copyFails();
     }
 
@@ -747,6 +766,30 @@ public final class PromiseTests {
         x.load(3, 1, 3);
         due("NIL, overlapping", x.tell(3, 0), 1);
         due("a number, overlapping", wordValue(x, 1, 4), 4);
+    }
+
+    /** What stands before and behind the copied words stays a number or a reference. */
+    private static void copiedEdges() {
+        for (int to = 0; to <= 6; to++) {
+            for (int from = 0; from <= 6; from++) {
+                WordHeap x = new WordHeap(64);
+                x.make(0, 10);
+                boolean[] refers = new boolean[10];
+                for (int i = 0; i < 10; i++) {
+                    refers[i] = i % 3 == 0 || i == 7;
+                    x.number(1, i);
+                    x.store(0, i, refers[i] ? 0 : 1);
+                }
+                System.arraycopy(refers, from, refers, to, 3);
+                x.shift(2, 0, to);
+                x.shift(3, 0, from);
+                x.copy(2, 3, 3);
+                for (int i = 0; i < 10; i++) {
+                    x.load(4, 0, i);
+                    due("word " + i + " behind a copy from " + from + " to " + to, x.tell(4, 0), refers[i] ? 2 : 0);
+                }
+            }
+        }
     }
 
     private static void copyFails() {
@@ -802,10 +845,12 @@ public final class PromiseTests {
         due("a new order", x.put(0, 1), 2);
         putSorts();
         putTexts();
+        everyTextualWord();
         putFails();
         tables();
         tablesFull();
         tableCollections();
+        tableAtTheEnd();
         mapsOfAllShapes();
     }
 
@@ -866,6 +911,36 @@ public final class PromiseTests {
         due("its NIL stays", x.tell(7, 0), 1);
         x.setByte(3, 0, 'x');
         throwing(UNSUPPORTED, "text 2", () -> x.setByte(2, 0, 'x'));
+    }
+
+    /** Each word of a key by itself: textual it is looked at by its bytes and its text is kept, else not. */
+    private static void everyTextualWord() {
+        for (int texts = 0; texts < 16; texts++) {
+            WordHeap x = new WordHeap(500);
+            x.map(0, 4, 1, texts);
+            x.make(1, 5);
+            for (int w = 0; w < 4; w++) {
+                text(x, 2 + w, "w" + w);
+                text(x, 6 + w, "w" + w);
+                text(x, 10 + w, "v" + w);
+                x.store(1, w, 2 + w);
+            }
+            due("capacity", x.tell(0, 4), 8);
+            due("put", x.put(0, 1), 0);
+            for (int w = 0; w < 4; w++) {
+                boolean textual = (texts >> w & 1) == 1;
+                x.store(1, w, 6 + w);
+                due("alike bytes in word " + w + " of " + texts, x.get(0, 1), textual ? 0 : WordHeap.NONE);
+                x.store(1, w, 10 + w);
+                due("other bytes in word " + w + " of " + texts, x.get(0, 1), WordHeap.NONE);
+                storeNumber(x, 1, w, 0);
+                throwing(textual ? UNSUPPORTED : null, "a number in word " + w + " of " + texts, () -> x.get(0, 1));
+                x.store(1, w, 2 + w);
+                int r = 2 + w;
+                throwing(textual ? UNSUPPORTED : null, "setByte, word " + w + " of " + texts, () -> x.setByte(r, 0, 'W'));
+            }
+            due("get", x.get(0, 1), 0);
+        }
     }
 
     private static void putFails() {
@@ -1012,6 +1087,41 @@ public final class PromiseTests {
         due("key", wordValue(x, 2, 0), 100);
         due("value 0", wordValue(x, 2, 1), 200);
         due("value 1", wordValue(x, 2, 2), 300);
+    }
+
+    /** A full table as the last of all words, which fill the limit: nothing behind it is looked at. */
+    private static void tableAtTheEnd() {
+        WordHeap x = new WordHeap(64);
+        x.make(1, 2);
+        x.make(2, 64 - 3 - 47 - 1);
+        x.map(0, 1, 1, 0);
+        due("used", x.total(0), 64);
+        for (int i = 0; i < 8; i++) {
+            due("put", putNumbers(x, 0, 1, i, i), i);
+        }
+        due("next", x.next(0, 8), WordHeap.NONE);
+        throwing(NO_ENTRY, "entry 8", () -> x.entry(0, 8, 1));
+        storeNumber(x, 1, 0, 8);
+        due("get", x.get(0, 1), WordHeap.NONE);
+        due("remove", x.remove(0, 1), WordHeap.NONE);
+        throwing(FULL, "put", () -> x.put(0, 1));
+        storeNumber(x, 1, 0, 7);
+        due("remove", x.remove(0, 1), 7);
+        // A header behind a full table is no entry.
+        WordHeap y = new WordHeap(200);
+        y.map(0, 1, 0, 0);
+        y.make(1, 1);
+        for (int i = 0; i < 8; i++) {
+            putNumbers(y, 0, 1, i);
+        }
+        due("next", y.next(0, 8), WordHeap.NONE);
+        y.map(2, 1, 0, 0);
+        due("put", putNumbers(y, 0, 1, 8), 8);
+        due("entries", y.tell(0, 3), 9);
+        y.collect();
+        for (int i = 0; i < 9; i++) {
+            due("next", y.next(0, i), i);
+        }
     }
 
     private static void mapsOfAllShapes() {
