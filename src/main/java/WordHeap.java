@@ -596,11 +596,12 @@ public final class WordHeap {
             if (n <= bits.length) {
                 return;
             }
+            int most = OBJECTS_START + limit;
             int size = FIRST_SIZE;
-            while (size < n) {
+            while (size < n && size < most) {
                 size *= 2;
             }
-            size = Math.min(size, OBJECTS_START + limit);
+            size = Math.min(size, most);
             bits = Arrays.copyOf(bits, size);
             boolean[] wider = new boolean[size];
             for (int i = 0; i < references.length; i++) {
